@@ -169,7 +169,20 @@ public final class KeySteward {
         up = true;
         fuseLeft = NONE;
         keys.replaying = true;
-        int ran = replay();
+        int ran = 0;
+        int place = 0;
+        int stop = recordEnd(place);
+        for (int turn = 0; turn < TURNS_MOST && stop != NONE; turn++) {
+            for (int step = 0; step < TURNS_MOST && place < stop; step++) {
+                ask.read(journal.row, place, stop);
+                ask.begin(mute);
+                place = ask.next;
+                perform(null);
+            }
+            ran++;
+            stop = recordEnd(place);
+        }
+        journal.cut(place);
         keys.replaying = false;
         expire();
         return ran;
@@ -368,6 +381,7 @@ public final class KeySteward {
                 runOther(command, c);
                 break;
         }
+        ask.tellRefusal();
         if (keys.changed && !keys.replaying) {
             note();
         }
@@ -375,6 +389,7 @@ public final class KeySteward {
 
     /** What is due behind a request or a whole block. */
     private void finish(Connection c, int before) {
+        ask.tellRefusal();
         if (runsBlock && notedBlock) {
             journal.rowHead(1);
             journal.text("EXEC");
@@ -455,29 +470,6 @@ public final class KeySteward {
             went++;
         }
         return went;
-    }
-
-    /** Runs the log's requests up to the first that is none, and cuts the log there: how many were run. */
-    private int replay() {
-        int ran = 0;
-        int place = 0;
-        for (int turn = 0; turn < TURNS_MOST && place < journal.size; turn++) {
-            int stop = recordEnd(place);
-            if (stop == NONE) {
-                break;
-            }
-            for (int step = 0; step < TURNS_MOST && place < stop; step++) {
-                ask.read(journal.row, place, stop);
-                ask.begin(mute);
-                place = ask.next;
-                if (ask.command != Command.MULTI && ask.command != Command.EXEC) {
-                    perform(null);
-                }
-            }
-            ran++;
-        }
-        journal.cut(place);
-        return ran;
     }
 
     /** Where the log's request, or block, that begins at a place ends; NONE when there is no whole one. */
@@ -713,33 +705,102 @@ public final class KeySteward {
         /** A mark, a number and the line's end. */
         void head(int mark, long number) {
             int width = width(number);
-            if (!room(width + 3)) {
-                return;
+            if (room(width + 3)) {
+                spellMark(mark);
+                spell(number, width);
+                spellEnd();
             }
-            row[size] = (byte) mark;
-            spell(size + 1, width, number);
-            size += width + 1;
-            endLine();
         }
 
         void digits(long number) {
             int width = width(number);
             if (room(width)) {
-                spell(size, width, number);
-                size += width;
+                spell(number, width);
+            }
+        }
+
+        void line(int mark, String text) {
+            if (room(text.length() + 3)) {
+                spellMark(mark);
+                spellText(text);
+                spellEnd();
+            }
+        }
+
+        void word(byte[] from, int at, int many) {
+            if (at < 0 || many < 0 || many > from.length - at) {
+                return;
+            }
+            int width = width(many);
+            if (room(width + many + 5)) {
+                spellMark('$');
+                spell(many, width);
+                spellEnd();
+                System.arraycopy(from, at, row, size, many);
+                size += many;
+                spellEnd();
+            }
+        }
+
+        void text(String text) {
+            int length = text.length();
+            int width = width(length);
+            if (room(width + length + 5)) {
+                spellMark('$');
+                spell(length, width);
+                spellEnd();
+                spellText(text);
+                spellEnd();
+            }
+        }
+
+        void numberWord(long number) {
+            int length = width(number);
+            int width = width(length);
+            if (room(width + length + 5)) {
+                spellMark('$');
+                spell(length, width);
+                spellEnd();
+                spell(number, length);
+                spellEnd();
+            }
+        }
+
+        // What is spelt below has its room already.
+
+        private void spellMark(int mark) {
+            if (size < row.length) {
+                row[size] = (byte) mark;
+                size++;
+            }
+        }
+
+        private void spellEnd() {
+            if (size + 1 < row.length) {
+                row[size] = '\r';
+                row[size + 1] = '\n';
+                size += 2;
+            }
+        }
+
+        private void spellText(String text) {
+            for (int i = 0; i < text.length() && size < row.length; i++) {
+                row[size] = (byte) text.charAt(i);
+                size++;
             }
         }
 
         /** The least number has no positive form, so the digits come of the negative one. */
-        private void spell(int at, int width, long number) {
+        private void spell(long number, int width) {
             long rest = number < 0 ? number : -number;
-            for (int i = at + width - 1; i >= at && i < row.length; i--) {
+            for (int i = size + width - 1; i >= size && i < row.length; i--) {
                 row[i] = (byte) ('0' - rest % 10);
                 rest /= 10;
             }
-            if (number < 0 && at < row.length) {
-                row[at] = '-';
+            if (number < 0 && size < row.length) {
+                row[size] = '-';
             }
+            size += width;
         }
 
         private static int width(long number) {
@@ -750,51 +811,6 @@ public final class KeySteward {
                 rest /= 10;
             }
             return width;
-        }
-
-        private void endLine() {
-            if (room(2)) {
-                row[size] = '\r';
-                row[size + 1] = '\n';
-                size += 2;
-            }
-        }
-
-        void line(int mark, String text) {
-            if (!room(text.length() + 3)) {
-                return;
-            }
-            row[size] = (byte) mark;
-            size++;
-            spellText(text);
-            endLine();
-        }
-
-        private void spellText(String text) {
-            for (int i = 0; i < text.length() && size < row.length; i++) {
-                row[size] = (byte) text.charAt(i);
-                size++;
-            }
-        }
-
-        void word(byte[] from, int at, int many) {
-            head('$', many);
-            append(from, at, many);
-            endLine();
-        }
-
-        void text(String text) {
-            head('$', text.length());
-            if (room(text.length())) {
-                spellText(text);
-            }
-            endLine();
-        }
-
-        void numberWord(long number) {
-            head('$', width(number));
-            digits(number);
-            endLine();
         }
 
         void number(long number) {
@@ -1221,6 +1237,7 @@ public final class KeySteward {
         int count;
         int next;
         Bytes answer;
+        private String refusal;
         Command command;
         long number;
         long first;
@@ -1338,8 +1355,16 @@ public final class KeySteward {
             command = count > 0 ? Command.named(row, starts[0], lengths[0]) : null;
         }
 
+        /** The command is answered so when it has ended; it answers nothing else then. */
         void refuse(String text) {
-            answer.line('-', text);
+            refusal = text;
+        }
+
+        void tellRefusal() {
+            if (refusal != null) {
+                answer.line('-', refusal);
+                refusal = null;
+            }
         }
 
         void accept() {
@@ -1514,7 +1539,9 @@ public final class KeySteward {
         }
 
         void touched(int id) {
-            dirty |= watches(id);
+            for (int i = 0; i < watchCount; i++) {
+                dirty |= watches[i] == id;
+            }
         }
 
         void watch(Request ask) {
@@ -1544,7 +1571,7 @@ public final class KeySteward {
                 int id = ask.id(i);
                 int place = words.find(channels, channelCount, id);
                 if (place < 0 && channelCount == CHANNELS_MOST) {
-                    ask.refuse("ERR full");
+                    output.line('-', "ERR full");
                     continue;
                 }
                 if (place < 0) {
@@ -1758,6 +1785,9 @@ public final class KeySteward {
             int place = words.find(ids, count, id);
             if (place < 0) {
                 place = -1 - place;
+                if (count == made) {
+                    addValue();
+                }
                 enter(place, id);
             }
             Value value = shelf[slots[place]];
@@ -1779,9 +1809,6 @@ public final class KeySteward {
 
         /** A key takes the first slot that none has. */
         private void enter(int place, int id) {
-            if (count == made) {
-                addValue();
-            }
             int slot = slots[count];
             System.arraycopy(ids, place, ids, place + 1, count - place);
             System.arraycopy(slots, place, slots, place + 1, count - place);
@@ -2575,10 +2602,8 @@ public final class KeySteward {
                     trim();
                     break;
                 case LMOVE:
-                    moveToldEnds();
-                    break;
                 case RPOPLPUSH:
-                    move(false, true);
+                    move(command == Command.LMOVE);
                     break;
                 default:
                     tellLength();
@@ -2775,17 +2800,13 @@ public final class KeySteward {
             ask.accept();
         }
 
-        private void moveToldEnds() {
-            boolean fromLeft = ask.is(3, "LEFT");
-            boolean toLeft = ask.is(4, "LEFT");
-            if (!fromLeft && !ask.is(3, "RIGHT") || !toLeft && !ask.is(4, "RIGHT")) {
+        private void move(boolean endsTold) {
+            boolean fromLeft = endsTold && ask.is(3, "LEFT");
+            boolean toLeft = !endsTold || ask.is(4, "LEFT");
+            if (endsTold && (!fromLeft && !ask.is(3, "RIGHT") || !toLeft && !ask.is(4, "RIGHT"))) {
                 ask.refuse("ERR syntax");
                 return;
             }
-            move(fromLeft, toLeft);
-        }
-
-        private void move(boolean fromLeft, boolean toLeft) {
             if (keys.refuses(1, 2, Value.LIST)) {
                 return;
             }
@@ -3200,7 +3221,7 @@ public final class KeySteward {
             int size = set == null ? 0 : set.size;
             for (int i = 0; i < size; i++) {
                 int id = set.at(i);
-                int place = placeOf(pot, id);
+                int place = words.find(pot.row, pot.size, id);
                 if (place < 0) {
                     pot.insert(-1 - place, id, NONE);
                 }
@@ -3211,7 +3232,8 @@ public final class KeySteward {
         private void siftPot(Value set, boolean inSet) {
             int kept = 0;
             for (int i = 0; i < pot.size && i < pot.row.length; i++) {
-                if (placeOf(set, pot.row[i]) >= 0 == inSet) {
+                boolean there = set != null && words.find(set.row, set.size, pot.row[i]) >= 0;
+                if (there == inSet) {
                     pot.row[kept] = pot.row[i];
                     kept++;
                 }
