@@ -9,16 +9,16 @@ public final class KeySteward {
     private static final int TAPE_MOST = 65540;
     private static final int INPUT_MOST = 65536;
     private static final int LOG_MOST = 1 << 26;
-    private static final int TURNS_MOST = 1 << 26;
+    private static final int TURNS_MOST = 1 << 20;
     private static final int REWRITE_WORDS = 1000;
     private static final long CLOCK_MOST = 1L << 52;
     private static final long NEVER = Long.MAX_VALUE;
 
     private final Bytes tape = new Bytes(TAPE_MOST);
-    private final Connection[] connections = new Connection[CONNECTIONS];
     private final Bytes mute = new Bytes(0);
-    private final Words words = new Words();
-    private final Request ask = new Request(words);
+    private final Connection[] connections;
+    private final Words words;
+    private final Request ask;
     private final Keys keys;
     private final Texts texts;
     private final Lists lists;
@@ -34,14 +34,21 @@ public final class KeySteward {
     private boolean up = true;
 
     public KeySteward() {
-        for (int i = 0; i < connections.length; i++) {
-            connections[i] = new Connection();
+        Connection[] all = new Connection[CONNECTIONS];
+        for (int i = 0; i < all.length; i++) {
+            all[i] = new Connection();
         }
-        keys = new Keys(words, ask, connections);
-        texts = new Texts(ask, keys);
-        lists = new Lists(words, ask, keys);
-        members = new Members(words, ask, keys);
-        orders = new Orders(words, ask, keys);
+        Words known = new Words();
+        Request request = new Request(known);
+        Keys held = new Keys(known, request, all);
+        connections = all;
+        words = known;
+        ask = request;
+        keys = held;
+        texts = new Texts(request, held);
+        lists = new Lists(known, request, held);
+        members = new Members(known, request, held);
+        orders = new Orders(known, request, held);
     }
 
     public boolean feed(int a, int b, int c, int d, int e) {
@@ -837,16 +844,13 @@ public final class KeySteward {
         private byte[] bytes = new byte[1024];
         private int[] starts = new int[128];
         private int[] chain = new int[128];
+        /** The number of the last word of each chain, and 1, so that 0 is none. */
         private final int[] heads = new int[HEADS];
         private int count;
 
-        Words() {
-            Arrays.fill(heads, NONE);
-        }
-
         void forget() {
             count = 0;
-            Arrays.fill(heads, NONE);
+            Arrays.fill(heads, 0);
         }
 
         int idOf(byte[] from, int at, int many) {
@@ -856,7 +860,7 @@ public final class KeySteward {
                 mix = 31 * mix + from[at + i];
             }
             int head = (mix ^ mix >>> 15) & HEADS - 1;
-            int id = heads[head];
+            int id = heads[head] - 1;
             for (int step = 0; step < count && id >= 0 && id < chain.length; step++) {
                 if (same(id, from, at, length)) {
                     return id;
@@ -891,10 +895,10 @@ public final class KeySteward {
             if (length > 0) {
                 System.arraycopy(from, at, bytes, start, length);
             }
-            chain[count] = heads[head];
-            heads[head] = count;
+            chain[count] = heads[head] - 1;
             starts[count + 1] = start + length;
             count++;
+            heads[head] = count;
             return count - 1;
         }
 

@@ -69,7 +69,10 @@ public final class BlocksAndChannels {
         watched(true, all, "t", "RENAME t u");
         watched(true, all, "u", "RENAME t u");
         watched(false, all, "t", "RENAME t t");
-        watched(true, all, "t", "FLUSHALL");
+        for (String key : new String[] {"t", "l", "h", "s", "s2", "z", "e"}) {
+            watched(true, all, key, "FLUSHALL");
+            watched(false, all, key, "FLUSHALL x");
+        }
         watched(false, all, "none", "FLUSHALL");
         watched(true, all, "l", "LPUSH l a");
         watched(true, all, "l", "LSET l 0 a");

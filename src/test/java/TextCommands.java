@@ -164,7 +164,64 @@ public final class TextCommands {
         CHECK.script(c, "TIME", "*2|$1|5|$3|500|");
     }
 
+    /** Long texts that come, shrink and go stay apart from one another. */
+    private static void longTexts() {
+        Client c = new Client();
+        String[] texts = new String[6];
+        for (int turn = 0; turn < 60; turn++) {
+            int i = turn * 7 % 6;
+            int length = 200 + turn * 977 % 9000;
+            texts[i] = turn % 5 == 4 ? "v" + turn : Check.times("" + (char) ('a' + turn % 26), length);
+            if (turn % 4 == 3) {
+                c.ask(0, "DEL k" + i);
+            }
+            c.send(0, Client.star("SET", "k" + i, texts[i]));
+            c.taken(0);
+            if (turn % 11 == 10) {
+                c.ask(0, "RPUSH l a");
+                c.ask(0, "RENAME k" + i + " l");
+                c.ask(0, "RENAME l k" + i);
+            }
+            for (int j = 0; j < 6; j++) {
+                if (texts[j] != null) {
+                    CHECK.due("text " + j + " in turn " + turn, c.ask(0, "GET k" + j), "$" + texts[j].length() + "\r\n" + texts[j] + "\r\n");
+                }
+            }
+        }
+    }
+
+    private static void manyKeys() {
+        Client c = new Client();
+        StringBuilder all = new StringBuilder();
+        for (int i = 0; i < 800; i++) {
+            int number = 1000 + i * 357 % 800;
+            c.ask(0, "SET " + number + " " + i);
+            all.append("$4|" + (1000 + i) + "|");
+        }
+        CHECK.script(c, "DBSIZE", ":800|", "KEYS *", "*800|" + all, "GET 1357", "$1|1|", "GET 1356", "$3|" + indexOf(356) + "|");
+        CHECK.due("memory", c.steward.total(1), 800 * 68 + 10 + 90 * 2 + 700 * 3);
+        for (int i = 0; i < 800; i += 2) {
+            c.ask(0, "DEL " + (1000 + i));
+        }
+        CHECK.script(c, "DBSIZE", ":400|", "EXISTS 1000 1001 1799", ":2|", "GET 1357", "$1|1|");
+        c.steward.crash();
+        c.steward.restart();
+        c.steward.open(0);
+        CHECK.script(c, "DBSIZE", ":400|", "EXISTS 1000 1001 1799", ":2|", "GET 1357", "$1|1|", "FLUSHALL", "+OK|", "DBSIZE", ":0|");
+        CHECK.due("memory", c.steward.total(1), 0);
+    }
+
+    private static int indexOf(int number) {
+        int i = 0;
+        while (i * 357 % 800 != number) {
+            i++;
+        }
+        return i;
+    }
+
     public static void main(String[] args) {
+        longTexts();
+        manyKeys();
         getAndSet();
         setWithTimes();
         others();
