@@ -336,7 +336,7 @@ public final class KeySteward {
         } else {
             many = c.queued;
             c.output.rowHead(many);
-            // The block's own row is free for the connection's next block, so none is made anew.
+            // The two rows change places, so that the connection's next block needs no new one.
             Bytes told = c.block;
             c.block = running;
             running = told;
