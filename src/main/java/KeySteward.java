@@ -521,7 +521,7 @@ public final class KeySteward {
             nextJournal.rowHead(3);
             nextJournal.text("SET");
             words.copyWord(id, nextJournal);
-            nextJournal.word(value.text, 0, value.size);
+            nextJournal.word(keys.texts, value.start, value.size);
         } else {
             boolean pairs = value.kind == Value.HASH || value.kind == Value.ORDER;
             int part = pairs ? REWRITE_WORDS / 2 : REWRITE_WORDS;
@@ -1618,9 +1618,10 @@ public final class KeySteward {
     }
 
     /**
-     * What a key has. A text stands in text. A list's words, a set's members and a hash's fields stand in row, the
-     * fields' values in others. An order has its members rising in row, with scores, and by their scores in others,
-     * with lineScores.
+     * What a key has. A text's bytes stand in the keys' row of texts, from start on. What others have stands in the
+     * keys' row of cells, from start on, in parts of so many cells as there is room for. The first part of a list, a
+     * set or a hash are its words, members or fields; a hash has their values in OTHERS. An order has its members
+     * rising in the first part, with SCORES, and by their scores in OTHERS, with LINE_SCORES.
      */
     private static final class Value {
         static final int TEXT = 0;
@@ -1629,43 +1630,92 @@ public final class KeySteward {
         static final int SET = 3;
         static final int ORDER = 4;
 
+        static final int FIRST = 0;
+        static final int OTHERS = 1;
+        static final int SCORES = 2;
+        static final int LINE_SCORES = 3;
+
+        private final Keys keys;
         int kind;
+        int parts;
         long ends = NEVER;
         int weight;
         int counted;
         int size;
-        byte[] text = new byte[0];
-        int[] row = new int[0];
-        int[] others = new int[0];
-        long[] scores = new long[0];
-        long[] lineScores = new long[0];
+        int start;
+        int room;
+
+        Value(Keys keys) {
+            this.keys = keys;
+        }
+
+        void become(int next) {
+            kind = next;
+            parts = next == TEXT ? 0 : next == ORDER ? 4 : next == HASH ? 2 : 1;
+            clear();
+        }
+
+        void clear() {
+            size = 0;
+            start = 0;
+            room = 0;
+        }
 
         int at(int i) {
-            return i < 0 || i >= size || i >= row.length ? NONE : row[i];
+            int place = start + i;
+            return i < 0 || i >= size || place >= keys.cells.length ? NONE : (int) keys.cells[place];
         }
 
         int otherAt(int i) {
-            return i < 0 || i >= size || i >= others.length ? NONE : others[i];
+            int place = start + OTHERS * room + i;
+            return i < 0 || i >= size || place >= keys.cells.length ? NONE : (int) keys.cells[place];
         }
 
         long scoreAt(int i) {
-            return i < 0 || i >= size || i >= scores.length ? 0 : scores[i];
+            int place = start + SCORES * room + i;
+            return i < 0 || i >= size || place >= keys.cells.length ? 0 : keys.cells[place];
         }
 
         long lineScoreAt(int i) {
-            return i < 0 || i >= size || i >= lineScores.length ? 0 : lineScores[i];
+            int place = start + LINE_SCORES * room + i;
+            return i < 0 || i >= size || place >= keys.cells.length ? 0 : keys.cells[place];
         }
 
-        /** A list's word, a set's member or a hash's field comes to a place of the row. */
+        /** A word of a part becomes another one. */
+        void set(int part, int i, int id) {
+            int place = start + part * room + i;
+            if (i >= 0 && i < size && place < keys.cells.length) {
+                keys.cells[place] = id;
+            }
+        }
+
+        /** A cell comes to a place of a part, which has room for it. */
+        private void put(int part, int i, long cell) {
+            int place = start + part * room + i;
+            int behind = size - i;
+            if (behind < keys.cells.length - place) {
+                System.arraycopy(keys.cells, place, keys.cells, place + 1, behind);
+                keys.cells[place] = cell;
+            }
+        }
+
+        /** So many cells of a part, from a place on, go. */
+        private void cut(int part, int i, int many) {
+            int place = start + part * room + i;
+            int behind = size - i - many;
+            if (many + behind <= keys.cells.length - place) {
+                System.arraycopy(keys.cells, place + many, keys.cells, place, behind);
+            }
+        }
+
+        /** A list's word, a set's member or a hash's field, for which there is room, comes to a place. */
         void insert(int place, int id, int other) {
-            if (place < 0 || place > size) {
+            if (place < 0 || place > size || size >= room) {
                 return;
             }
-            row = opened(row, size, place);
-            row[place] = id;
+            put(FIRST, place, id);
             if (kind == HASH) {
-                others = opened(others, size, place);
-                others[place] = other;
+                put(OTHERS, place, other);
             }
             size++;
         }
@@ -1675,26 +1725,22 @@ public final class KeySteward {
             if (place < 0 || many <= 0 || many > size - place) {
                 return;
             }
-            System.arraycopy(row, place + many, row, place, size - place - many);
+            cut(FIRST, place, many);
             if (kind == HASH) {
-                System.arraycopy(others, place + many, others, place, size - place - many);
+                cut(OTHERS, place, many);
             }
             size -= many;
         }
 
-        /** A member comes to a place of the row and one of the line. */
+        /** A member, for which there is room, comes to a place of the row and one of the line. */
         void insertScored(int place, int linePlace, int id, long score) {
-            if (place < 0 || place > size || linePlace < 0 || linePlace > size) {
+            if (place < 0 || place > size || linePlace < 0 || linePlace > size || size >= room) {
                 return;
             }
-            row = opened(row, size, place);
-            row[place] = id;
-            scores = opened(scores, size, place);
-            scores[place] = score;
-            others = opened(others, size, linePlace);
-            others[linePlace] = id;
-            lineScores = opened(lineScores, size, linePlace);
-            lineScores[linePlace] = score;
+            put(FIRST, place, id);
+            put(SCORES, place, score);
+            put(OTHERS, linePlace, id);
+            put(LINE_SCORES, linePlace, score);
             size++;
         }
 
@@ -1702,24 +1748,11 @@ public final class KeySteward {
             if (place < 0 || place >= size || linePlace < 0 || linePlace >= size) {
                 return;
             }
+            cut(FIRST, place, 1);
+            cut(SCORES, place, 1);
+            cut(OTHERS, linePlace, 1);
+            cut(LINE_SCORES, linePlace, 1);
             size--;
-            System.arraycopy(row, place + 1, row, place, size - place);
-            System.arraycopy(scores, place + 1, scores, place, size - place);
-            System.arraycopy(others, linePlace + 1, others, linePlace, size - linePlace);
-            System.arraycopy(lineScores, linePlace + 1, lineScores, linePlace, size - linePlace);
-        }
-
-        /** The row with a gap at a place, made longer when it is full. */
-        static int[] opened(int[] row, int size, int place) {
-            int[] wide = size < row.length ? row : Arrays.copyOf(row, Math.max(4, 2 * size));
-            System.arraycopy(wide, place, wide, place + 1, size - place);
-            return wide;
-        }
-
-        static long[] opened(long[] row, int size, int place) {
-            long[] wide = size < row.length ? row : Arrays.copyOf(row, Math.max(4, 2 * size));
-            System.arraycopy(wide, place, wide, place + 1, size - place);
-            return wide;
         }
     }
 
@@ -1727,9 +1760,9 @@ public final class KeySteward {
     private static final class Keys {
         private static final int KEY_WEIGHT = 64;
         private static final int MEMORY_FULL = 60000;
-        private static final int SPARE_LEAST = 512;
-        private static final int SPARES_MOST = 256;
         private static final int TEXT_MOST = 16384;
+        private static final int ROW_FIRST = 64;
+        private static final int ROW_MOST = 1 << 20;
         private static final long TIME_MOST = 9007199254740991L;
 
         private final Words words;
@@ -1740,9 +1773,13 @@ public final class KeySteward {
         private int[] slots = new int[64];
         private Value[] shelf = new Value[64];
         private int made;
-        private final byte[][] spares = new byte[SPARES_MOST][];
-        private int spareCount;
-        private final byte[] noText = new byte[0];
+        /** What all keys have stands in two rows, so that no key that comes or grows needs a new row of its own. */
+        byte[] texts = new byte[ROW_FIRST];
+        private byte[] nextTexts = new byte[0];
+        private int textsEnd;
+        long[] cells = new long[ROW_FIRST];
+        private long[] nextCells = new long[0];
+        private int cellsEnd;
         int count;
         int memory;
         int timed;
@@ -1761,10 +1798,8 @@ public final class KeySteward {
             for (int i = 0; i < all; i++) {
                 dropAt(count - 1);
             }
-            // In this order a replay gives each key the value that it had, whose rows are long enough already.
-            for (int i = 0; i < made; i++) {
-                slots[i] = i;
-            }
+            textsEnd = 0;
+            cellsEnd = 0;
         }
 
         int idAt(int place) {
@@ -1795,11 +1830,10 @@ public final class KeySteward {
                 enter(place, id);
             }
             Value value = shelf[slots[place]];
-            if (kind != Value.TEXT) {
-                release(value);
+            if (value.kind != kind) {
+                value.become(kind);
             }
             setEnds(value, NEVER);
-            value.kind = kind;
             value.size = 0;
             value.weight = 0;
             return value;
@@ -1831,7 +1865,7 @@ public final class KeySteward {
                 ids = Arrays.copyOf(ids, 2 * made);
                 slots = Arrays.copyOf(slots, 2 * made);
             }
-            shelf[made] = new Value();
+            shelf[made] = new Value(this);
             slots[made] = made;
             made++;
         }
@@ -1852,7 +1886,7 @@ public final class KeySteward {
             }
             leave(place);
             setEnds(value, NEVER);
-            release(value);
+            value.clear();
             memory -= value.counted;
             value.counted = 0;
         }
@@ -1894,45 +1928,118 @@ public final class KeySteward {
             value.ends = ends;
         }
 
-        /** Long texts' rows are used again, as a run that makes many of them would fill the room. */
-        private void release(Value value) {
-            if (value == null || value.text.length < SPARE_LEAST) {
+        /** A text gets room for so many bytes; it keeps those that it has. */
+        void growText(Value value, int need) {
+            if (need <= value.room) {
                 return;
             }
-            if (spareCount < SPARES_MOST) {
-                spares[spareCount] = value.text;
-                spareCount++;
+            int room = Math.max(need, Math.min(2 * value.room, TEXT_MOST));
+            if (room > texts.length - textsEnd) {
+                packTexts(room);
             }
-            value.text = noText;
+            if (room <= texts.length - textsEnd) {
+                System.arraycopy(texts, value.start, texts, textsEnd, value.size);
+                value.start = textsEnd;
+                value.room = room;
+                textsEnd += room;
+            }
         }
 
-        /** Makes a text's row long enough; it keeps the first bytes of it. */
-        void makeRoom(Value value, int need) {
-            int length = 16;
-            while (length < need && length < TEXT_MOST) {
-                length <<= 1;
+        /** All texts move together into the other row; a longer one is made only when they would fill most of it. */
+        private void packTexts(int more) {
+            int held = more;
+            for (int i = 0; i < made; i++) {
+                held += shelf[i].kind == Value.TEXT ? shelf[i].size : 0;
             }
-            int has = value.text.length;
-            if (has == length || has > length && has < SPARE_LEAST) {
+            int length = texts.length;
+            while (held > length / 4 * 3 && length < ROW_MOST) {
+                length *= 2;
+            }
+            if (held > length) {
                 return;
             }
-            byte[] wide = spareOf(length);
-            byte[] old = value.text;
-            release(value);
-            System.arraycopy(old, 0, wide, 0, Math.min(value.size, Math.min(old.length, length)));
-            value.text = wide;
-        }
-
-        private byte[] spareOf(int length) {
-            for (int i = 0; i < spareCount; i++) {
-                byte[] spare = spares[i];
-                if (spare != null && spare.length == length) {
-                    spareCount--;
-                    spares[i] = spares[spareCount];
-                    return spare;
+            byte[] packed = nextTexts.length < length ? new byte[length] : nextTexts;
+            textsEnd = 0;
+            for (int i = 0; i < made; i++) {
+                Value value = shelf[i];
+                if (value.kind == Value.TEXT) {
+                    System.arraycopy(texts, value.start, packed, textsEnd, value.size);
+                    value.start = textsEnd;
+                    value.room = value.size;
+                    textsEnd += value.size;
                 }
             }
-            return new byte[length];
+            nextTexts = texts;
+            texts = packed;
+        }
+
+        /** A value that is no text gets room for so many in each of its parts; it keeps what it has. */
+        void growCells(Value value, int need) {
+            if (need <= value.room) {
+                return;
+            }
+            int room = Math.max(need, 2 * value.room);
+            int more = value.parts * room;
+            if (more > cells.length - cellsEnd) {
+                packCells(more);
+            }
+            if (more <= cells.length - cellsEnd) {
+                for (int part = 0; part < value.parts; part++) {
+                    System.arraycopy(cells, value.start + part * value.room, cells, cellsEnd + part * room, value.size);
+                }
+                value.start = cellsEnd;
+                value.room = room;
+                cellsEnd += more;
+            }
+        }
+
+        /** As packTexts, of the cells. */
+        private void packCells(int more) {
+            int held = more;
+            for (int i = 0; i < made; i++) {
+                held += shelf[i].parts * shelf[i].size;
+            }
+            int length = cells.length;
+            while (held > length / 4 * 3 && length < ROW_MOST) {
+                length *= 2;
+            }
+            if (held > length) {
+                return;
+            }
+            long[] packed = nextCells.length < length ? new long[length] : nextCells;
+            cellsEnd = 0;
+            for (int i = 0; i < made; i++) {
+                Value value = shelf[i];
+                for (int part = 0; part < value.parts; part++) {
+                    System.arraycopy(cells, value.start + part * value.room, packed, cellsEnd, value.size);
+                    cellsEnd += value.size;
+                }
+                if (value.parts > 0) {
+                    value.start = cellsEnd - value.parts * value.size;
+                    value.room = value.size;
+                }
+            }
+            nextCells = cells;
+            cells = packed;
+        }
+
+        /** As Words.find, in the first part of a value whose words stand rising there. */
+        int placeOf(Value value, int id) {
+            int low = 0;
+            int high = value == null ? 0 : value.size;
+            while (low < high) {
+                int middle = low + high >>> 1;
+                int order = words.compare(value.at(middle), id);
+                if (order == 0) {
+                    return middle;
+                }
+                if (order < 0) {
+                    low = middle + 1;
+                } else {
+                    high = middle;
+                }
+            }
+            return -1 - low;
         }
 
         /** Whether the memory is full for this command, which is answered. */
@@ -2232,7 +2339,7 @@ public final class KeySteward {
             if (value == null || value.kind != Value.TEXT) {
                 ask.answer.nil();
             } else {
-                ask.answer.word(value.text, 0, value.size);
+                ask.answer.word(keys.texts, value.start, value.size);
             }
         }
 
@@ -2262,19 +2369,19 @@ public final class KeySteward {
 
         /** The text gets so many bytes, new ones 0. */
         private void stretch(Value value, int size) {
-            keys.makeRoom(value, size);
-            int most = Math.min(size, value.text.length);
+            keys.growText(value, size);
+            int most = Math.min(size, value.room);
             if (most > value.size) {
-                Arrays.fill(value.text, value.size, most, (byte) 0);
+                Arrays.fill(keys.texts, value.start + value.size, value.start + most, (byte) 0);
             }
             value.size = most;
             value.weight = most;
         }
 
         /** Bytes of a row come over those of the text from a place on. */
-        private static void overlay(Value value, int place, byte[] from, int at, int length) {
+        private void overlay(Value value, int place, byte[] from, int at, int length) {
             if (place >= 0 && length <= value.size - place && at >= 0 && length <= from.length - at) {
-                System.arraycopy(from, at, value.text, place, length);
+                System.arraycopy(from, at, keys.texts, value.start + place, length);
             }
         }
 
@@ -2443,7 +2550,7 @@ public final class KeySteward {
                 return;
             }
             ask.cutSpan(value.size);
-            ask.answer.word(value.text, ask.low, ask.high - ask.low);
+            ask.answer.word(keys.texts, value.start + ask.low, ask.high - ask.low);
         }
 
         private void writePart() {
@@ -2485,7 +2592,7 @@ public final class KeySteward {
             int id = ask.id(1);
             Value value = keys.find(id);
             ask.number = 0;
-            if (value != null && !ask.parse(value.text, 0, value.size)) {
+            if (value != null && !ask.parse(keys.texts, value.start, value.size)) {
                 ask.refuse("ERR integer");
                 return;
             }
@@ -2512,8 +2619,8 @@ public final class KeySteward {
             return true;
         }
 
-        private static int byteAt(Value value, int i) {
-            return value == null || i < 0 || i >= value.size || i >= value.text.length ? 0 : value.text[i];
+        private int byteAt(Value value, int i) {
+            return value == null || i < 0 || i >= value.size ? 0 : keys.texts[value.start + i];
         }
 
         private void setBit() {
@@ -2527,8 +2634,8 @@ public final class KeySteward {
             Value value = keys.findOrMake(id, Value.TEXT);
             stretch(value, Math.max(value.size, place + 1));
             int old = byteAt(value, place);
-            if (place >= 0 && place < value.text.length) {
-                value.text[place] = (byte) (one ? old | bit : old & ~bit);
+            if (place >= 0 && place < value.size) {
+                keys.texts[value.start + place] = (byte) (one ? old | bit : old & ~bit);
             }
             keys.settle(id, value);
             ask.answer.number((old & bit) != 0 ? 1 : 0);
@@ -2616,6 +2723,7 @@ public final class KeySteward {
         }
 
         private void add(Value list, int place, int id) {
+            keys.growCells(list, list.size + 1);
             list.insert(place, id, NONE);
             list.weight += WORD_WEIGHT + words.length(id);
         }
@@ -2723,13 +2831,13 @@ public final class KeySteward {
                 return;
             }
             int place = ask.placeIn(list.size);
-            if (place < 0 || place >= list.row.length) {
+            if (place < 0) {
                 ask.refuse("ERR range");
                 return;
             }
             int word = ask.id(3);
-            list.weight += words.length(word) - words.length(list.row[place]);
-            list.row[place] = word;
+            list.weight += words.length(word) - words.length(list.at(place));
+            list.set(Value.FIRST, place, word);
             keys.settle(id, list);
             ask.accept();
         }
@@ -2845,13 +2953,13 @@ public final class KeySteward {
         private final Keys keys;
         private final Bytes numeral = new Bytes(32);
         /** The set that comes of several ones. */
-        private final Value pot = new Value();
+        private int[] pot = new int[64];
+        private int potSize;
 
         Members(Words words, Request ask, Keys keys) {
             this.words = words;
             this.ask = ask;
             this.keys = keys;
-            pot.kind = Value.SET;
         }
 
         void runHash(Command command) {
@@ -2926,10 +3034,6 @@ public final class KeySteward {
             }
         }
 
-        private int placeOf(Value value, int id) {
-            return value == null ? NONE : words.find(value.row, value.size, id);
-        }
-
         private void tellSize(int kind) {
             if (!keys.refuses(1, 1, kind)) {
                 Value value = keys.find(ask.id(1));
@@ -2939,7 +3043,7 @@ public final class KeySteward {
 
         private void tellIfThere(int kind) {
             if (!keys.refuses(1, 1, kind)) {
-                ask.answer.number(placeOf(keys.find(ask.id(1)), ask.id(2)) < 0 ? 0 : 1);
+                ask.answer.number(keys.placeOf(keys.find(ask.id(1)), ask.id(2)) < 0 ? 0 : 1);
             }
         }
 
@@ -2976,7 +3080,7 @@ public final class KeySteward {
             Value value = keys.find(id);
             int went = 0;
             for (int i = 2; i < ask.count && value != null; i++) {
-                int place = placeOf(value, ask.id(i));
+                int place = keys.placeOf(value, ask.id(i));
                 if (place >= 0) {
                     removeAt(value, place);
                     went++;
@@ -2990,16 +3094,15 @@ public final class KeySteward {
 
         /** Sets a field to a value: whether it is a new one. */
         private boolean setField(Value hash, int field, int word) {
-            int place = placeOf(hash, field);
+            int place = keys.placeOf(hash, field);
             if (place < 0) {
+                keys.growCells(hash, hash.size + 1);
                 hash.insert(-1 - place, field, word);
                 hash.weight += PAIR_WEIGHT + words.length(field) + words.length(word);
                 return true;
             }
-            if (place < hash.others.length) {
-                hash.weight += words.length(word) - words.length(hash.others[place]);
-                hash.others[place] = word;
-            }
+            hash.weight += words.length(word) - words.length(hash.otherAt(place));
+            hash.set(Value.OTHERS, place, word);
             return false;
         }
 
@@ -3025,7 +3128,7 @@ public final class KeySteward {
             }
             int id = ask.id(1);
             int field = ask.id(2);
-            if (placeOf(keys.find(id), field) >= 0) {
+            if (keys.placeOf(keys.find(id), field) >= 0) {
                 ask.answer.number(0);
                 return;
             }
@@ -3037,7 +3140,7 @@ public final class KeySteward {
 
         /** The value of a field, or NONE. */
         private int valueOf(Value hash, int field) {
-            int place = placeOf(hash, field);
+            int place = keys.placeOf(hash, field);
             return hash == null || place < 0 ? NONE : hash.otherAt(place);
         }
 
@@ -3101,10 +3204,11 @@ public final class KeySteward {
 
         /** Adds a member to a set: whether it is a new one. */
         private boolean addMember(Value set, int id) {
-            int place = placeOf(set, id);
+            int place = keys.placeOf(set, id);
             if (place >= 0) {
                 return false;
             }
+            keys.growCells(set, set.size + 1);
             set.insert(-1 - place, id, NONE);
             set.weight += MEMBER_WEIGHT + words.length(id);
             return true;
@@ -3135,7 +3239,7 @@ public final class KeySteward {
             Value set = keys.find(ask.id(1));
             ask.answer.rowHead(ask.count - 2);
             for (int i = 2; i < ask.count; i++) {
-                ask.answer.number(placeOf(set, ask.id(i)) < 0 ? 0 : 1);
+                ask.answer.number(keys.placeOf(set, ask.id(i)) < 0 ? 0 : 1);
             }
         }
 
@@ -3147,7 +3251,7 @@ public final class KeySteward {
             int to = ask.id(2);
             int member = ask.id(3);
             Value source = keys.find(from);
-            int place = placeOf(source, member);
+            int place = keys.placeOf(source, member);
             if (source == null || place < 0) {
                 ask.answer.number(0);
                 return;
@@ -3182,9 +3286,9 @@ public final class KeySteward {
                 return;
             }
             fillPot(command, 1);
-            ask.answer.rowHead(pot.size);
-            for (int i = 0; i < pot.size; i++) {
-                words.copyWord(pot.at(i), ask.answer);
+            ask.answer.rowHead(potSize);
+            for (int i = 0; i < potSize; i++) {
+                words.copyWord(pot[i], ask.answer);
             }
         }
 
@@ -3195,21 +3299,21 @@ public final class KeySteward {
             fillPot(command == Command.SINTERSTORE ? Command.SINTER
                     : command == Command.SUNIONSTORE ? Command.SUNION : Command.SDIFF, 2);
             int id = ask.id(1);
-            if (pot.size == 0) {
+            if (potSize == 0) {
                 keys.remove(id);
             } else {
                 Value set = keys.fresh(id, Value.SET);
-                for (int i = 0; i < pot.size; i++) {
-                    addMember(set, pot.at(i));
+                for (int i = 0; i < potSize; i++) {
+                    addMember(set, pot[i]);
                 }
                 keys.settle(id, set);
             }
-            ask.answer.number(pot.size);
+            ask.answer.number(potSize);
         }
 
         /** The pot becomes what comes of the sets from an arg on. */
         private void fillPot(Command way, int first) {
-            pot.size = 0;
+            potSize = 0;
             addToPot(keys.find(ask.id(first)));
             for (int i = first + 1; i < ask.count; i++) {
                 Value set = keys.find(ask.id(i));
@@ -3225,9 +3329,12 @@ public final class KeySteward {
             int size = set == null ? 0 : set.size;
             for (int i = 0; i < size; i++) {
                 int id = set.at(i);
-                int place = words.find(pot.row, pot.size, id);
-                if (place < 0) {
-                    pot.insert(-1 - place, id, NONE);
+                int place = -1 - words.find(pot, potSize, id);
+                if (place >= 0) {
+                    pot = potSize < pot.length ? pot : Arrays.copyOf(pot, 2 * potSize);
+                    System.arraycopy(pot, place, pot, place + 1, potSize - place);
+                    pot[place] = id;
+                    potSize++;
                 }
             }
         }
@@ -3235,14 +3342,13 @@ public final class KeySteward {
         /** Of the pot stay those that are in a set, or those that are not. */
         private void siftPot(Value set, boolean inSet) {
             int kept = 0;
-            for (int i = 0; i < pot.size && i < pot.row.length; i++) {
-                boolean there = set != null && words.find(set.row, set.size, pot.row[i]) >= 0;
-                if (there == inSet) {
-                    pot.row[kept] = pot.row[i];
+            for (int i = 0; i < potSize; i++) {
+                if (keys.placeOf(set, pot[i]) >= 0 == inSet) {
+                    pot[kept] = pot[i];
                     kept++;
                 }
             }
-            pot.size = kept;
+            potSize = kept;
         }
     }
 
@@ -3318,18 +3424,14 @@ public final class KeySteward {
             }
         }
 
-        private int placeOf(Value order, int id) {
-            return order == null ? NONE : words.find(order.row, order.size, id);
-        }
-
         /** How many of the line come ahead of a member with a score. */
         private int linePlace(Value order, long score, int id) {
             int low = 0;
-            int high = Math.min(order.size, order.others.length);
+            int high = order.size;
             while (low < high) {
                 int middle = low + high >>> 1;
                 long there = order.lineScoreAt(middle);
-                if (there < score || there == score && words.compare(order.others[middle], id) < 0) {
+                if (there < score || there == score && words.compare(order.otherAt(middle), id) < 0) {
                     low = middle + 1;
                 } else {
                     high = middle;
@@ -3339,6 +3441,7 @@ public final class KeySteward {
         }
 
         private void insert(Value order, int place, int id, long score) {
+            keys.growCells(order, order.size + 1);
             order.insertScored(place, linePlace(order, score, id), id, score);
             order.weight += MEMBER_WEIGHT + words.length(id);
         }
@@ -3418,7 +3521,7 @@ public final class KeySteward {
                     return;
                 }
                 int member = ask.id(i + 1);
-                int place = placeOf(order, member);
+                int place = keys.placeOf(order, member);
                 if (place < 0 && !told(XX)) {
                     if (order == null) {
                         order = keys.fresh(id, Value.ORDER);
@@ -3448,7 +3551,7 @@ public final class KeySteward {
 
         /** A member's score grows by the request's number, if the flags let it; answers the score. */
         private void increase(int id, Value found, int member) {
-            int place = placeOf(found, member);
+            int place = keys.placeOf(found, member);
             long step = ask.number;
             if (told(place < 0 ? XX : NX)) {
                 ask.answer.nil();
@@ -3482,7 +3585,7 @@ public final class KeySteward {
             Value order = keys.find(id);
             int went = 0;
             for (int i = 2; i < ask.count && order != null; i++) {
-                int place = placeOf(order, ask.id(i));
+                int place = keys.placeOf(order, ask.id(i));
                 if (place >= 0) {
                     removeAt(order, place);
                     went++;
@@ -3506,7 +3609,7 @@ public final class KeySteward {
                 return;
             }
             Value order = keys.find(ask.id(1));
-            int place = placeOf(order, ask.id(2));
+            int place = keys.placeOf(order, ask.id(2));
             if (order == null || place < 0) {
                 ask.answer.nil();
             } else {
@@ -3520,7 +3623,7 @@ public final class KeySteward {
             }
             Value order = keys.find(ask.id(1));
             int member = ask.id(2);
-            int place = placeOf(order, member);
+            int place = keys.placeOf(order, member);
             if (order == null || place < 0) {
                 ask.answer.nil();
                 return;
@@ -3653,7 +3756,7 @@ public final class KeySteward {
                 return;
             }
             for (int i = low; i < high; i++) {
-                removeAt(order, placeOf(order, order.otherAt(low)));
+                removeAt(order, keys.placeOf(order, order.otherAt(low)));
             }
             keys.settle(id, order);
         }
