@@ -10,7 +10,7 @@ public final class RoomUse {
      * The room has 7.3 million fields and elements and 600,000 objects and arrays. One of the former takes a byte at
      * least and one of the latter 16, so that so many bytes are well within it.
      */
-    private static final long BYTES_MOST = 2500000;
+    private static final long BYTES_MOST = 2000000;
 
     private static final int[] LENGTHS = {1, 15, 16, 17, 64, 129, 256, 257, 258, 511, 512, 513, 1025, 2049, 4097, 8193, 16384};
 
@@ -279,21 +279,27 @@ public final class RoomUse {
         new RoomUse().send(0, mixed).restartsToTheEnd(true).end("restarts of all sorts that rewrite");
     }
 
-    /** All rows are as long as they can be in one run. */
+    /** Outputs, logs, texts and cells that grow by small steps till they are about as long as they can be in one run. */
     private static void allFull() {
         RoomUse run = new RoomUse();
-        for (int i = 0; i < 4; i++) {
-            run.send(i, "SETRANGE " + i + " 16383 x\n");
+        StringBuilder texts = new StringBuilder();
+        for (int length = 16; length <= 8192; length *= 2) {
+            texts.append("SETBIT a " + 8 * length + " 1\nSETBIT b " + 8 * length + " 1\nDEL a\n");
         }
+        run.send(0, texts + "DEL b\n" + each(4, "SETRANGE # 14900 x"));
         for (int i = 0; i < 4; i++) {
-            run.send(i, "GET 0\nGET 1\nGET 2\nGET 3\n" + lines("PING #\n", 300));
+            StringBuilder reads = new StringBuilder();
+            for (int length = 32; length < 14900; length *= 2) {
+                reads.append("GETRANGE " + key(0) + " 0 " + length + "\n");
+            }
+            run.send(i, reads + each(2, "GET #"));
         }
         run.rewrite();
-        run.send(0, row("MULTI\nSADD s", "#", 300) + "FLUSHALL\nEXEC\n");
-        run.send(1, row("ZADD z", "1 #", 390) + row("ZADD z", "1 !#", 320) + "DEL z\n");
-        run.send(2, "SETRANGE 0 16383 x\nSETRANGE 1 16383 x\nSETRANGE 2 16383 x\n" + lines("SET k# v\n", 1000));
         run.rewrite();
-        run.rewrite();
+        run.restart(0);
+        run.open(0);
+        run.send(0, each(4, "DEL #") + row("ZADD z", "1 #", 390) + row("ZADD z", "1 !#", 320) + "DEL z\n");
+        run.send(0, row("MULTI\nSADD s", "#", 300) + each(3, "SETRANGE # 14900 x") + "EXEC\n");
         run.restartsToTheEnd(true).end("all full");
     }
 

@@ -13,7 +13,7 @@ public final class TornLogs {
     }
 
     private static List<String> requests(long seed, int many) {
-        Chance chance = new Chance(seed);
+        Chance chance = new Chance(seed, false);
         List<String> all = new ArrayList<>();
         for (int i = 0; i < many; i++) {
             List<String> words = chance.words();

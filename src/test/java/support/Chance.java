@@ -35,10 +35,22 @@ final class Chance {
     private static final String[] PATTERNS = {"*", "?", "*1", "t*", "[a-z]?", "[^tlh]*", "[t\\]s]1", "[z-a]*", "\\*",
         "t[1-", "[]", "[^]1", "[^", "*[12]*", "[h-l][\\1-\\2]", "t1\\", "\\t1", "[t-]1", "[-t]1", "**", "", "k\\", "?[", "*\\"};
 
-    final Random random;
+    private static final String[] LARGE_SHAPES = {
+        "SETBIT t n b", "SETBIT t n b", "SETRANGE t n v", "APPEND t x", "APPEND t x", "SET t x", "SET t v", "GETSET t x",
+        "GET t", "GETDEL t", "DEL t", "DEL k", "RENAME t t", "RENAME k k", "MSET t x t v t x", "BITCOUNT t", "INCR t",
+        "RPUSH l x*", "LPUSH l x*", "LTRIM l i n", "LRANGE l i n", "LPOP l n", "LMOVE l l e e", "LSET l i x", "LREM l i v",
+        "HSET h xx*", "HSET h xx*", "HDEL h x*", "HGETALL h", "HINCRBY h v i", "SADD s x*", "SADD s x*", "SREM s x*",
+        "SMEMBERS s", "SUNIONSTORE s s s", "SDIFFSTORE s s s", "SINTERSTORE s s s", "SUNIONSTORE k s", "SMOVE s s v",
+        "ZADD z nx*", "ZADD z nx*", "ZREM z x*", "ZRANGE z i i W", "ZREVRANGE z i n W", "ZREMRANGEBYRANK z i i",
+        "ZINCRBY z i v", "ZPOPMIN z n", "PEXPIRE k n", "PERSIST k", "DBSIZE", "FLUSHALL"};
 
-    Chance(long seed) {
+    final Random random;
+    /** Whether most requests are about long texts and large rows. */
+    private final boolean large;
+
+    Chance(long seed, boolean large) {
         random = new Random(seed);
+        this.large = large;
     }
 
     private String of(String[] row) {
@@ -136,8 +148,54 @@ final class Chance {
         }
     }
 
+    private int size(int bits) {
+        return random.nextInt(1 << random.nextInt(bits));
+    }
+
+    private String longWord() {
+        int length = in(3) ? size(10) : size(3);
+        StringBuilder word = new StringBuilder();
+        for (int i = 0; i < length; i++) {
+            word.append((char) ('a' + random.nextInt(26)));
+        }
+        return word.toString();
+    }
+
+    /** A part of a large shape; with * behind it a row of them. */
+    private void addLarge(List<String> words, String part) {
+        boolean rows = part.endsWith("*");
+        int many = rows ? 1 + size(8) : 1;
+        String kinds = rows ? part.substring(0, part.length() - 1) : part;
+        for (int i = 0; i < many; i++) {
+            for (char kind : kinds.toCharArray()) {
+                if (kind == 'x') {
+                    words.add(rows && !in(10) ? "" + random.nextInt(500) : longWord());
+                } else if (kind == 'n') {
+                    words.add("" + size(words.get(0).equals("SETBIT") ? 18 : 14));
+                } else if ("tlhsz".indexOf(kind) >= 0) {
+                    words.add("" + kind + random.nextInt(6));
+                } else {
+                    add(words, "" + kind);
+                }
+            }
+        }
+    }
+
+    private List<String> largeWords() {
+        String[] parts = of(LARGE_SHAPES).split(" ");
+        List<String> words = new ArrayList<>();
+        words.add(parts[0]);
+        for (int i = 1; i < parts.length; i++) {
+            addLarge(words, parts[i]);
+        }
+        return words;
+    }
+
     /** The words of a request. */
     List<String> words() {
+        if (large && !in(5)) {
+            return largeWords();
+        }
         String[] parts = of(SHAPES).split(" ");
         List<String> words = new ArrayList<>();
         words.add(letters(parts[0]));
