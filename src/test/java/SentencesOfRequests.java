@@ -63,13 +63,16 @@ public final class SentencesOfRequests {
         String three = "PING\n*1\r\n$4\r\nPING\r\nPING a\r\n";
         for (int cut = 0; cut <= three.length(); cut++) {
             int done = cut < 5 ? 0 : cut < 19 ? 1 : cut < three.length() ? 2 : 3;
-            says(sentence).comes(0, three.substring(0, cut), done, PONG.repeat(Math.min(done, 2)) + (done > 2 ? "$1|a|" : ""))
-                    .comes(0, three.substring(cut), 3 - done, PONG.repeat(Math.max(2 - done, 0)) + (done > 2 ? "" : "$1|a|"));
+            says(sentence).comes(0, three.substring(0, cut), done, PONG.repeat(Math.min(done, 2)) + (done > 2 ? "$1|a|"
+                    : ""))
+                    .comes(0, three.substring(cut), 3 - done, PONG.repeat(Math.max(2 - done, 0)) + (done > 2 ? ""
+                    : "$1|a|"));
         }
     }
 
     private static void starred() {
-        String sentence = "a LINE of * ; then, as often as its number says, a LINE of $ , as many bytes as that says, CR LF (13, 10)";
+        String sentence = "a LINE of * ; then, as often as its number says, a LINE of $ , as many bytes as that says, "
+                + "CR LF (13, 10)";
         takes(sentence, "*1\r\n$4\r\nPING\r\n", 1, PONG);
         takes(sentence, "*2\r\n$4\r\nECHO\r\n$0\r\n\r\n", 1, "$0||");
         takes(sentence, "*2\r\n$4\r\nECHO\r\n$7\r\na\r\n*1\r\n\r\n", 1, "$7|a|*1||");
@@ -134,6 +137,18 @@ public final class SentencesOfRequests {
         }
     }
 
+    private static void toldAtOnce() {
+        // Each fault is there with its last byte and no sooner; "faults" tries that of all of them.
+        String sentence = "A FAULT is told as soon as the bytes that are there show it";
+        faults(sentence, "*1025\r\n", "count");
+        faults(sentence, "*1024\r\n$16385\r\n", "length");
+        faults(sentence, "*1024\r\n!", "dollar");
+        faults(sentence, "*1024\r\n$0\r\n!", "ending");
+        faults(sentence, "a".repeat(2048), "line");
+        // A word that isn't there yet may be ahead of what will show a fault.
+        waits(sentence, "*2\r\n$5\r\n*x\r\n");
+    }
+
     private static void longHeads() {
         String sentence = "a LINE whose CR LF is not within its first 16 bytes (from * or $ on; 16 being there)";
         waits(sentence, "*12345678901234");
@@ -152,7 +167,8 @@ public final class SentencesOfRequests {
 
     private static void noHeads() {
         String sentence = "or that isn't such a LINE (its CR LF being there)";
-        for (String bad : new String[] {"x", "+1", " 1", "1 ", "--1", "1-", "1.", "1\r1", "\n1", "1\n", "\r", "\u00b1", "1\u0000", "/", ":"}) {
+        for (String bad : new String[] {"x", "+1", " 1", "1 ", "--1", "1-", "1.", "1\r1", "\n1", "1\n", "\r", "\u00b1",
+            "1\u0000", "/", ":"}) {
             waits(sentence, "*" + bad);
             faults(sentence, "*" + bad + "\r\n", "count");
             waits(sentence, "*1\r\n$" + bad);
@@ -218,7 +234,8 @@ public final class SentencesOfRequests {
     }
 
     private static void faultsAnswer() {
-        String sentence = "The answer is -ERR protocol: and the fault's word, a blank ahead of it, and the connection closes";
+        String sentence = "The answer is -ERR protocol: and the fault's word, a blank ahead of it, and the connection "
+                + "closes";
         String[] rows = {"*x\r\n", "count", "*1\r\n$x\r\n", "length", "*1\r\nx", "dollar", "*1\r\n$0\r\nx", "ending",
             "a".repeat(2048), "line"};
         for (int i = 0; i < rows.length; i += 2) {
@@ -231,13 +248,18 @@ public final class SentencesOfRequests {
     }
 
     private static void forms() {
-        says("+text CR LF; -text CR LF; :number CR LF", "SET k v").answers("PING", "+PONG|").answers("EXEC", "-ERR none|")
-                .answers("STRLEN k", ":1|").answers("TTL none", ":-2|").answers("INCRBY n -9223372036854775808", ":-9223372036854775808|");
+        says("+text CR LF; -text CR LF; :number CR LF", "SET k v").answers("PING", "+PONG|").answers("EXEC",
+                "-ERR none|")
+                .answers("STRLEN k", ":1|").answers("TTL none", ":-2|").answers("INCRBY n -9223372036854775808",
+                ":-9223372036854775808|");
         says("a WORD: $length CR LF bytes CR LF; NIL: $-1 CR LF", "SET k v", "SET e ''").answers("GET k", "$1|v|")
                 .answers("GET e", "$0||").answers("GET none", "$-1|");
-        says("a ROW: *count CR LF and so many answers; NILROW: *-1 CR LF", "RPUSH l a b").answers("LRANGE l 0 -1", "*2|$1|a|$1|b|")
-                .answers("LRANGE l 5 6", "*0|").answers("LPOP none 1", "*-1|").answers("MULTI", "+OK|").answers("LLEN l", "+QUEUED|")
-                .answers("LPOP none 1", "+QUEUED|").answers("LRANGE l 0 0", "+QUEUED|").answers("EXEC", "*3|:2|*-1|*1|$1|a|");
+        says("a ROW: *count CR LF and so many answers; NILROW: *-1 CR LF", "RPUSH l a b").answers("LRANGE l 0 -1",
+                "*2|$1|a|$1|b|")
+                .answers("LRANGE l 5 6", "*0|").answers("LPOP none 1", "*-1|").answers("MULTI", "+OK|")
+                .answers("LLEN l", "+QUEUED|")
+                .answers("LPOP none 1", "+QUEUED|").answers("LRANGE l 0 0", "+QUEUED|").answers("EXEC",
+                "*3|:2|*-1|*1|$1|a|");
     }
 
     /** A server whose connection 1 has so many bytes in its output. */
@@ -255,29 +277,36 @@ public final class SentencesOfRequests {
     }
 
     private static void fullOutput() {
-        String sentence = "A connection's OUTPUT has room for 65536 bytes; when something does not fit, the output is emptied of all, "
+        String sentence = "A connection's OUTPUT has room for 65536 bytes; when something does not fit, the output is "
+                + "emptied of all, "
                 + "and the connection closes";
         Scene full = outputOf(sentence, 65529);
-        full.due("just fits", full.client.send(1, "PING\n"), 1).isOpen(1, true).due("all of it", full.steward.out(1), 65536);
+        full.due("just fits", full.client.send(1, "PING\n"), 1).isOpen(1, true).due("all of it", full.steward.out(1),
+                65536);
         full.due("nothing to say", full.client.send(1, "*0\r\n"), 0).isOpen(1, true);
-        full.due("no byte more", full.client.send(1, "PING\n"), 1).isOpen(1, false).due("emptied", full.steward.out(1), 0);
+        full.due("no byte more", full.client.send(1, "PING\n"), 1).isOpen(1, false).due("emptied", full.steward.out(1),
+                0);
         Scene one = outputOf(sentence, 65530);
-        one.due("a byte too many", one.client.send(1, "PING\n"), 1).isOpen(1, false).due("emptied", one.steward.out(1), 0);
+        one.due("a byte too many", one.client.send(1, "PING\n"), 1).isOpen(1, false).due("emptied", one.steward.out(1),
+                0);
         one.due("opened", one.steward.open(1), true).by(1, "PING", PONG);
         Scene taken = outputOf(sentence, 65530);
         taken.steward.take(1, 1);
-        taken.due("room again", taken.client.send(1, "PING\n"), 1).isOpen(1, true).due("all of it", taken.steward.out(1), 65536);
+        taken.due("room again", taken.client.send(1, "PING\n"), 1).isOpen(1, true).due("all of it",
+                taken.steward.out(1), 65536);
         // The same of a word, a row, a fault and QUIT.
         Scene row = outputOf(sentence, 65536 - 17);
         row.client.ask(0, "RPUSH l a b");
         row.due("row", row.client.send(1, "LRANGE l 0 -1\n"), 1).isOpen(1, false).due("emptied", row.steward.out(1), 0);
         Scene fits = outputOf(sentence, 65536 - 18);
         fits.client.ask(0, "RPUSH l a b");
-        fits.due("row", fits.client.send(1, "LRANGE l 0 -1\n"), 1).isOpen(1, true).due("all of it", fits.steward.out(1), 65536);
+        fits.due("row", fits.client.send(1, "LRANGE l 0 -1\n"), 1).isOpen(1, true).due("all of it", fits.steward.out(1),
+                65536);
         Scene fault = outputOf(sentence, 65536 - 21);
         fault.due("fault", fault.client.send(1, "*x\r\n"), 0).isOpen(1, false).due("emptied", fault.steward.out(1), 0);
         Scene told = outputOf(sentence, 65536 - 22);
-        told.due("fault", told.client.send(1, "*x\r\n"), 0).isOpen(1, false).due("all of it", told.steward.out(1), 65536);
+        told.due("fault", told.client.send(1, "*x\r\n"), 0).isOpen(1, false).due("all of it", told.steward.out(1),
+                65536);
         Scene quit = outputOf(sentence, 65536 - 4);
         quit.due("quit", quit.client.send(1, "QUIT\n"), 1).isOpen(1, false).due("emptied", quit.steward.out(1), 0);
     }
@@ -289,20 +318,23 @@ public final class SentencesOfRequests {
         request.answers("MGET a b", "*2|$1|1|$-1|").logIs("INCR a");
         Scene block = outputOf(sentence, 65536 - 50);
         block.by(0, "SUBSCRIBE c", "*3|$9|subscribe|$1|c|:1|");
-        block.due("of those that came", block.client.send(1, "MULTI\nINCR a\nECHO 0123456789\nINCR b\nPUBLISH c v\nEXEC\nINCR d\n"), 6);
+        block.due("of those that came", block.client.send(1,
+                "MULTI\nINCR a\nECHO 0123456789\nINCR b\nPUBLISH c v\nEXEC\nINCR d\n"), 6);
         block.isOpen(1, false).due("emptied", block.steward.out(1), 0).outputs(0, "*3|$7|message|$1|c|$1|v|");
         block.by(2, "MGET a b d", "*3|$1|1|$1|1|$-1|").logIs("MULTI;INCR a;INCR b;EXEC");
     }
 
     private static void closing() {
-        String sentence = "A connection that closes forgets its input, block, watches and channels; its output stays till it is opened anew";
+        String sentence = "A connection that closes forgets its input, block, watches and channels; its output stays "
+                + "till it is opened anew";
         for (String close : new String[] {"QUIT\n", "*x\r\n"}) {
             Scene input = says(sentence);
             input.client.send(1, close + "ECHO rest");
             String left = input.client.output(1);
             input.isOpen(1, false).due("output stays", left.isEmpty(), false);
             input.due("not open", input.client.send(1, "\n"), -1).due("output stays", input.client.output(1), left);
-            input.due("opened", input.steward.open(1), true).due("output", input.steward.out(1), 0).comes(1, "\n", 0, "");
+            input.due("opened", input.steward.open(1), true).due("output", input.steward.out(1), 0).comes(1, "\n", 0,
+                    "");
             Scene block = says(sentence);
             block.client.send(1, "MULTI\nSET k v\n" + close);
             block.steward.open(1);
@@ -330,6 +362,7 @@ public final class SentencesOfRequests {
         noWords();
         plainLines();
         requestsWithoutWords();
+        toldAtOnce();
         longHeads();
         noHeads();
         counts();
