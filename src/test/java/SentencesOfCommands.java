@@ -6,7 +6,7 @@ public final class SentencesOfCommands {
     private static final Check CHECK = new Check();
     private static final String[] ALL_SORTS = {"SET t 5", "RPUSH l a b", "HSET h f 1", "SADD s a b", "ZADD z 1 a"};
 
-    /** Each name with the numbers of args that it takes: this, or with / either, with + any more, with ++ any two more. */
+    /** Each name with the numbers of args that it takes: with / either, with + any more, with ++ any two more. */
     private static final String NUMBERS = "GET 1,SET 2+,GETDEL 1,GETSET 2,SETNX 2,SETEX 3,PSETEX 3,MGET 1+,MSET "
     + "2++,MSETNX 2++,APPEND 2,STRLEN 1,"
             + "GETRANGE 3,SETRANGE 3,INCR 1,DECR 1,INCRBY 2,DECRBY 2,SETBIT 3,GETBIT 2,BITCOUNT 1/3,"
@@ -25,6 +25,37 @@ public final class SentencesOfCommands {
             + "ZREMRANGEBYSCORE 3,ZPOPMIN 1/2,ZPOPMAX 1/2,PING 0/1,ECHO 1,QUIT 0,WATCH 1+,UNWATCH 0,MULTI 0,EXEC "
             + "0,DISCARD 0,"
             + "SUBSCRIBE 1+,UNSUBSCRIBE 0+,PUBLISH 2,TIME 0";
+
+    /** Requests whose keys # must have a sort, ahead of each its letter: text, list, hash, set or order (z). */
+    private static final String[] FORMS = {"t GET #", "t SET # v GET", "t SET # v XX GET", "t SET # v NX GET",
+        "t GETDEL #",
+        "t GETSET # v", "t APPEND # v", "t APPEND # ''",
+        "t STRLEN #", "t GETRANGE # 0 1", "t SETRANGE # 0 v", "t SETRANGE # 0 ''", "t INCR #", "t DECR #",
+        "t INCRBY # 1", "t DECRBY # 1",
+        "t SETBIT # 0 1", "t GETBIT # 0", "t BITCOUNT #", "t BITCOUNT # 0 1",
+        "l LPUSH # v", "l RPUSH # v w", "l LPUSHX # v", "l RPUSHX # v", "l LPOP #", "l LPOP # 1", "l LPOP # 0",
+        "l RPOP #", "l RPOP # 0", "l LLEN #",
+        "l LRANGE # 0 1", "l LINDEX # 0", "l LSET # 0 v", "l LINSERT # BEFORE a v", "l LREM # 0 v", "l LTRIM # 0 1",
+        "l LMOVE # none LEFT LEFT", "l LMOVE none # LEFT LEFT", "l LMOVE l # LEFT LEFT", "l LMOVE # l LEFT LEFT",
+        "l LMOVE # # LEFT LEFT",
+        "l RPOPLPUSH # none", "l RPOPLPUSH none #", "l RPOPLPUSH l #", "l RPOPLPUSH # l",
+        "h HSET # f v", "h HSETNX # f v", "h HGET # f", "h HMGET # f g", "h HDEL # f", "h HEXISTS # f", "h HLEN #",
+        "h HSTRLEN # f", "h HKEYS #",
+        "h HVALS #", "h HGETALL #", "h HINCRBY # f 1", "s SADD # m", "s SREM # m", "s SISMEMBER # m",
+        "s SMISMEMBER # m n", "s SCARD #", "s SMEMBERS #",
+        "s SMOVE # none a", "s SMOVE none # a", "s SMOVE s # a", "s SMOVE s # x", "s SMOVE # s a", "s SINTER #",
+        "s SINTER none #", "s SINTER s #",
+        "s SINTER # s", "s SUNION #", "s SUNION none #", "s SUNION s #", "s SDIFF #", "s SDIFF none #",
+        "s SDIFF s none #", "s SINTERSTORE d #",
+        "s SINTERSTORE d none #", "s SINTERSTORE s s #", "s SUNIONSTORE d s #", "s SUNIONSTORE # #",
+        "s SDIFFSTORE d none #", "s SDIFFSTORE d # s",
+        "s SPOP #", "z ZADD # 1 m", "z ZADD # XX 1 m", "z ZADD # INCR 1 m", "z ZREM # m", "z ZSCORE # m",
+        "z ZINCRBY # 1 m", "z ZCARD #",
+        "z ZRANK # m", "z ZREVRANK # m", "z ZRANGE # 0 1", "z ZREVRANGE # 0 1", "z ZRANGEBYSCORE # 1 2",
+        "z ZREVRANGEBYSCORE # 2 1",
+        "z ZRANGEBYSCORE # 1 2 LIMIT -1 0", "z ZCOUNT # 1 2", "z ZREMRANGEBYRANK # 0 1", "z ZREMRANGEBYSCORE # 1 2",
+        "z ZPOPMIN #", "z ZPOPMIN # 0",
+        "z ZPOPMAX #", "z ZPOPMAX # 2"};
 
     private static Scene says(String sentence, String... setup) {
         return new Scene(CHECK, sentence, setup);
@@ -258,35 +289,7 @@ public final class SentencesOfCommands {
     private static void wrongSorts() {
         String sentence = "-WRONGTYPE when a key has another sort of value than it must (any of them, whether others "
                 + "are there or not)";
-        String[] forms = {"t GET #", "t SET # v GET", "t SET # v XX GET", "t SET # v NX GET", "t GETDEL #",
-            "t GETSET # v", "t APPEND # v", "t APPEND # ''",
-            "t STRLEN #", "t GETRANGE # 0 1", "t SETRANGE # 0 v", "t SETRANGE # 0 ''", "t INCR #", "t DECR #",
-            "t INCRBY # 1", "t DECRBY # 1",
-            "t SETBIT # 0 1", "t GETBIT # 0", "t BITCOUNT #", "t BITCOUNT # 0 1",
-            "l LPUSH # v", "l RPUSH # v w", "l LPUSHX # v", "l RPUSHX # v", "l LPOP #", "l LPOP # 1", "l LPOP # 0",
-            "l RPOP #", "l RPOP # 0", "l LLEN #",
-            "l LRANGE # 0 1", "l LINDEX # 0", "l LSET # 0 v", "l LINSERT # BEFORE a v", "l LREM # 0 v", "l LTRIM # 0 1",
-            "l LMOVE # none LEFT LEFT", "l LMOVE none # LEFT LEFT", "l LMOVE l # LEFT LEFT", "l LMOVE # l LEFT LEFT",
-            "l LMOVE # # LEFT LEFT",
-            "l RPOPLPUSH # none", "l RPOPLPUSH none #", "l RPOPLPUSH l #", "l RPOPLPUSH # l",
-            "h HSET # f v", "h HSETNX # f v", "h HGET # f", "h HMGET # f g", "h HDEL # f", "h HEXISTS # f", "h HLEN #",
-            "h HSTRLEN # f", "h HKEYS #",
-            "h HVALS #", "h HGETALL #", "h HINCRBY # f 1", "s SADD # m", "s SREM # m", "s SISMEMBER # m",
-            "s SMISMEMBER # m n", "s SCARD #", "s SMEMBERS #",
-            "s SMOVE # none a", "s SMOVE none # a", "s SMOVE s # a", "s SMOVE s # x", "s SMOVE # s a", "s SINTER #",
-            "s SINTER none #", "s SINTER s #",
-            "s SINTER # s", "s SUNION #", "s SUNION none #", "s SUNION s #", "s SDIFF #", "s SDIFF none #",
-            "s SDIFF s none #", "s SINTERSTORE d #",
-            "s SINTERSTORE d none #", "s SINTERSTORE s s #", "s SUNIONSTORE d s #", "s SUNIONSTORE # #",
-            "s SDIFFSTORE d none #", "s SDIFFSTORE d # s",
-            "s SPOP #", "z ZADD # 1 m", "z ZADD # XX 1 m", "z ZADD # INCR 1 m", "z ZREM # m", "z ZSCORE # m",
-            "z ZINCRBY # 1 m", "z ZCARD #",
-            "z ZRANK # m", "z ZREVRANK # m", "z ZRANGE # 0 1", "z ZREVRANGE # 0 1", "z ZRANGEBYSCORE # 1 2",
-            "z ZREVRANGEBYSCORE # 2 1",
-            "z ZRANGEBYSCORE # 1 2 LIMIT -1 0", "z ZCOUNT # 1 2", "z ZREMRANGEBYRANK # 0 1", "z ZREMRANGEBYSCORE # 1 2",
-            "z ZPOPMIN #", "z ZPOPMIN # 0",
-            "z ZPOPMAX #", "z ZPOPMAX # 2"};
-        for (String form : forms) {
+        for (String form : FORMS) {
             String must = form.substring(0, 1);
             String line = form.substring(2);
             for (String sort : new String[] {"t", "l", "h", "s", "z"}) {
@@ -308,6 +311,45 @@ public final class SentencesOfCommands {
                 scene.due(line + " of " + sort, scene.ask(0, line.replace("#", sort)).startsWith("-"), false);
             }
         }
+    }
+
+    private static void wordsThatAreNoKeys() {
+        String sentence = "k is a key, v, m, f are words";
+        for (String form : FORMS) {
+            String must = form.substring(0, 1);
+            String line = form.substring(2).replace("#", must);
+            Scene scene = says(sentence, ALL_SORTS);
+            for (String word : line.split(" ")) {
+                if (!"t l h s z d none".contains(word)) {
+                    scene.ask(0, (must.equals("l") ? "SET " : "RPUSH ") + word + " x");
+                }
+            }
+            scene.due(line + ", with keys of those names", scene.ask(0, line).startsWith("-WRONGTYPE"), false);
+        }
+        says(sentence, "SET DEL v", "SET EXISTS v", "SET b v").keepsAll("DEL none", ":0|", "EXISTS none", ":0|")
+                .changes("MSETNX a b", ":1|").answers("GET a", "$1|b|").answers("GET b", "$1|v|");
+        says(sentence, "WATCH k", "SET WATCH v", "MULTI").answers("EXEC", "*0|");
+        says(sentence, "SUBSCRIBE c").by(1, "PUBLISH SUBSCRIBE v", ":0|").by(1, "PUBLISH c c", ":1|")
+                .outputs(0, "*3|$7|message|$1|c|$1|c|");
+    }
+
+    private static void sameWords() {
+        String sentence = "A WORD is a row of bytes";
+        says(sentence, "SET k k").holds("GET k", "$1|k|", "APPEND k k", ":2|", "GET k", "$2|kk|");
+        says(sentence, "RPUSH l l x l").holds("LINDEX l 0", "$1|l|", "LINSERT l BEFORE l l", ":4|", "LSET l 3 l",
+                "+OK|",
+                "LREM l 0 l", ":3|", "LRANGE l 0 -1", "*1|$1|x|");
+        says(sentence, "HSET h f h h 1").holds("HGET h f", "$1|h|", "HMGET h f h", "*2|$1|h|$1|1|", "HVALS h",
+                "*2|$1|h|$1|1|",
+                "HSTRLEN h f", ":1|", "HINCRBY h f 1", "-ERR integer|", "HSETNX h f x", ":0|", "HDEL h f", ":1|",
+                "HGETALL h", "*2|$1|h|$1|1|");
+        says(sentence, "HSET 5 5 5").holds("HINCRBY 5 5 1", ":6|", "HGETALL 5", "*2|$1|5|$1|6|");
+        says(sentence, "SADD s s a").holds("SREM s a", ":1|", "SMEMBERS s", "*1|$1|s|", "SISMEMBER s s", ":1|",
+                "SPOP s",
+                "$1|s|", "EXISTS s", ":0|");
+        says(sentence, "ZADD 1 1 1 2 a").holds("ZREM 1 a", ":1|", "ZSCORE 1 1", "$1|1|", "ZRANGE 1 0 -1", "*1|$1|1|",
+                "ZRANK 1 1",
+                ":0|", "ZINCRBY 1 1 1", "$1|2|", "ZPOPMIN 1 1", "*2|$1|1|$1|2|");
     }
 
     private static void emptyKeys() {
@@ -474,6 +516,8 @@ public final class SentencesOfCommands {
         integers();
         orderOfRefusals();
         wrongSorts();
+        wordsThatAreNoKeys();
+        sameWords();
         emptyKeys();
         absentKeys();
         rising();

@@ -101,6 +101,25 @@ public final class SentencesOfGroups {
         }
     }
 
+    /** Words of many lengths, more of them than there are ways to know them by. */
+    private static void manyWords() {
+        String sentence = "SADD k m ..., SREM k m ...: how many";
+        Scene set = says(sentence);
+        Scene list = says("LREM k n v: n above 0 the first n, below 0 the last ones, 0 all that are v: how many");
+        for (int i = 0; i < 1900; i++) {
+            set.answers("SADD s " + Integer.toString(i, 7), ":1|");
+            list.ask(0, "RPUSH l " + Integer.toString(i, 7));
+        }
+        set.answers("SCARD s", ":1900|");
+        for (int i = 0; i < 1900; i++) {
+            String word = Integer.toString(i, 7);
+            set.answers("SISMEMBER s " + word, ":1|").answers("SADD s " + word, ":0|");
+            list.answers("LREM l 0 " + word, ":1|").answers("LREM l 0 " + word, ":0|");
+        }
+        set.totals(1, 65 + 24 * 1900 + 7 + 2 * 42 + 3 * 294 + 4 * 1557, 0);
+        list.totals(0, 0, 0);
+    }
+
     private static void ltrim() {
         String sentence = "LTRIM k i j: +OK";
         String all = "*4|$1|a|$1|b|$1|c|$1|d|";
@@ -167,9 +186,12 @@ public final class SentencesOfGroups {
     }
 
     private static void hdel() {
-        says("HDEL k f ...: how many", "HSET h a 1 b 2 c 3").changes("HDEL h a none a", ":1|").keepsAll("HDEL h a",
-                ":0|", "HDEL h none a", ":0|", "HDEL none a", ":0|").changes("HDEL h c b", ":2|")
-                .totals(0, 0, 0);
+        says("HDEL k f ...: how many", "HSET h a 1 b 2 c 3").changes("HDEL h a none a", ":1|")
+                .answers("HGETALL h", "*4|$1|b|$1|2|$1|c|$1|3|").keepsAll("HDEL h a", ":0|", "HDEL h none a", ":0|",
+                "HDEL none a",
+                ":0|").changes("HDEL h c b", ":2|").totals(0, 0, 0);
+        says("HDEL k f ...: how many", "HSET h a 1 b 2 c 3 d 4").changes("HDEL h c a", ":2|")
+                .answers("HGETALL h", "*4|$1|b|$1|2|$1|d|$1|4|").totals(1, 65 + 2 * 34, 0);
     }
 
     private static void hashReads() {
@@ -182,6 +204,17 @@ public final class SentencesOfGroups {
                 "*5|$1|B|$1|a|$2|aa|$1|b|$1|c|", "HVALS h", "*5|$1|5|$1|3|$1|4|$1|1|$1|2|",
                 "HGETALL h", "*10|$1|B|$1|5|$1|a|$1|3|$2|aa|$1|4|$1|b|$1|1|$1|c|$1|2|", "HKEYS none", "*0|",
                 "HVALS none", "*0|", "HGETALL none", "*0|");
+    }
+
+    private static void manyFields() {
+        Scene scene = says("HKEYS, HVALS, HGETALL k: fields rising, their values");
+        StringBuilder all = new StringBuilder("*1200|");
+        for (int i = 0; i < 600; i++) {
+            int number = i * 247 % 600;
+            scene.answers("HSET h " + (1000 + number) + " " + (2000 + number), ":1|");
+            all.append("$4|" + (1000 + i) + "|$4|" + (2000 + i) + "|");
+        }
+        scene.answers("HGETALL h", all.toString()).answers("HLEN h", ":600|").totals(1, 65 + 600 * 40, 0);
     }
 
     private static void hincrby() {
@@ -245,6 +278,27 @@ public final class SentencesOfGroups {
                 "*1|$1|4|", "SDIFF a b c none", "*2|$1|1|$1|5|", "SDIFF none a", "*0|", "SDIFF a a", "*0|");
     }
 
+    /** Sets, and what comes of them, of more members than any of the other tests has. */
+    private static void combinedMany() {
+        String sentence = "SINTER, SUNION, SDIFF k ... (rising)";
+        Scene scene = says(sentence);
+        StringBuilder[] rows = {new StringBuilder("*400|"), new StringBuilder("*200|"), new StringBuilder("*100|")};
+        for (int i = 0; i < 400; i++) {
+            String member = "" + (1000 + i * 123 % 400);
+            int number = i * 123 % 400;
+            scene.ask(0, (number < 300 ? "SADD a " : "SADD none ") + member);
+            scene.ask(0, (number >= 100 ? "SADD b " : "SADD none ") + member);
+            String told = "$4|" + (1000 + i) + "|";
+            rows[0].append(told);
+            rows[1].append(i >= 100 && i < 300 ? told : "");
+            rows[2].append(i < 100 ? told : "");
+        }
+        scene.holds("SUNION a b", rows[0].toString(), "SINTER a b", rows[1].toString(), "SDIFF a b", rows[2].toString(),
+                "SUNIONSTORE d b a", ":400|", "SMEMBERS d", rows[0].toString(), "SINTERSTORE d d a b", ":200|",
+                "SMEMBERS d",
+                rows[1].toString(), "SDIFFSTORE d a b", ":100|", "SMEMBERS d", rows[2].toString());
+    }
+
     private static void stored() {
         String sentence = "with STORE at the name a key first: it becomes that set (whatever it was, its time goes; "
                 + "nothing: it is gone): its size";
@@ -289,6 +343,7 @@ public final class SentencesOfGroups {
         lset();
         linsert();
         lrem();
+        manyWords();
         ltrim();
         lmove();
         rpoplpush();
@@ -297,11 +352,13 @@ public final class SentencesOfGroups {
         hget();
         hdel();
         hashReads();
+        manyFields();
         hincrby();
         saddAndSrem();
         setReads();
         smove();
         combined();
+        combinedMany();
         stored();
         spop();
         CHECK.end();

@@ -193,8 +193,35 @@ public final class SentencesOfKeys {
                 .changes("FLUSHALL", "+OK|").totals(0, 0, 0).keeps("DBSIZE", ":0|");
     }
 
-    private static void emptyFlushall() {
-        says("DBSIZE. FLUSHALL: +OK").keepsAll("DBSIZE", ":0|", "FLUSHALL", "+OK|");
+    private static void flushallOfEach() {
+        String sentence = "DBSIZE. FLUSHALL: +OK";
+        says(sentence).keepsAll("DBSIZE", ":0|", "FLUSHALL", "+OK|");
+        says(sentence, "SET k v").keeps("DBSIZE", ":1|").changes("FLUSHALL", "+OK|").totals(0, 0, 0);
+        for (String key : new String[] {"t", "l", "h", "s", "z"}) {
+            says(sentence, ALL_SORTS).by(1, "WATCH " + key, "+OK|").answers("FLUSHALL", "+OK|").by(1, "MULTI", "+OK|")
+                    .by(1, "EXEC", "*-1|");
+        }
+        says(sentence, ALL_SORTS).by(1, "WATCH none", "+OK|").answers("FLUSHALL", "+OK|").by(1, "MULTI", "+OK|")
+                .by(1, "EXEC", "*0|");
+    }
+
+    /** Each of many keys has its own value, when others come ahead of it and when others go. */
+    private static void manyKeys() {
+        Scene scene = says("KEYS p: a row of the keys that a PATTERN p fits, rising");
+        StringBuilder all = new StringBuilder("*700|");
+        for (int i = 0; i < 700; i++) {
+            scene.answers("SET " + (1000 + i * 353 % 700) + " " + i * 353 % 700, "+OK|");
+            all.append("$4|" + (1000 + i) + "|");
+        }
+        scene.answers("KEYS *", all.toString()).answers("DBSIZE", ":700|");
+        for (int i = 0; i < 700; i += 2) {
+            scene.answers("DEL " + (1000 + i), ":1|");
+        }
+        for (int i = 0; i < 700; i++) {
+            String number = "" + i;
+            scene.answers("GET " + (1000 + i), i % 2 == 0 ? "$-1|" : "$" + number.length() + "|" + number + "|");
+        }
+        scene.answers("DBSIZE", ":350|").answers("FLUSHALL", "+OK|").totals(0, 0, 0);
     }
 
     private static void expire() {
@@ -333,7 +360,8 @@ public final class SentencesOfKeys {
         classes();
         plainBytes();
         dbsizeAndFlushall();
-        emptyFlushall();
+        flushallOfEach();
+        manyKeys();
         expire();
         expireAtOnce();
         persist();

@@ -17,6 +17,22 @@ public final class SentencesOfOrders {
                 "*5|$1|l|$1|z|$0||$1|b|$1|c|");
     }
 
+    private static void manyMembers() {
+        Scene scene = says("Orders: members with SCORES (integers), by score, then rising");
+        StringBuilder all = new StringBuilder("*600|");
+        for (int i = 0; i < 600; i++) {
+            int number = i * 247 % 600;
+            scene.answers("ZADD z " + -(number / 10) + " " + (1000 + number), ":1|");
+            all.append("$4|" + (1000 + (59 - i / 10) * 10 + i % 10) + "|");
+        }
+        scene.answers("ZRANGE z 0 -1", all.toString());
+        for (int i = 0; i < 600; i++) {
+            int number = (59 - i / 10) * 10 + i % 10;
+            scene.answers("ZRANK z " + (1000 + number), ":" + i + "|");
+        }
+        scene.answers("ZCOUNT z -9 0", ":100|").answers("ZREMRANGEBYSCORE z -9 0", ":100|").totals(1, 65 + 500 * 52, 0);
+    }
+
     private static void nx() {
         String sentence = "NX new ones alone";
         says(sentence, "ZADD z 1 a").keepsAll("ZADD z NX 2 a", ":0|", "ZADD z NX CH 2 a", ":0|", "ZADD z NX INCR 2 a",
@@ -275,6 +291,7 @@ public final class SentencesOfOrders {
 
     public static void main(String[] args) {
         order();
+        manyMembers();
         nx();
         xx();
         gt();

@@ -110,8 +110,25 @@ public final class SentencesOfTheLog {
             int log = scene.steward.log();
             scene.answers(others[i], others[i + 1]).due("logged: " + others[i], scene.steward.log() > log, true);
         }
-        filled(sentence, 60000).keepsAll("GET t", "$1|5|", "LLEN l", ":2|", "SINTER s", "*2|$1|a|$1|b|", "PERSIST t",
-                ":0|", "PUBLISH c v", ":0|", "WATCH k", "+OK|", "UNWATCH", "+OK|", "PING", "+PONG|");
+        filled(sentence, 60000).keepsAll("GET t", "$1|5|", "MGET t l", "*2|$1|5|$-1|", "STRLEN t", ":1|",
+                "GETRANGE t 0 0",
+                "$1|5|", "GETBIT t 2", ":1|", "BITCOUNT t", ":4|", "EXISTS t", ":1|", "TYPE t", "+string|", "KEYS t",
+                "*1|$1|t|", "DBSIZE", ":9|", "TTL t", ":-1|", "PTTL t", ":-1|", "PERSIST t", ":0|", "EXPIRE none 5",
+                ":0|",
+                "EXPIREAT none 5", ":0|", "PEXPIRE none 5", ":0|", "LLEN l", ":2|", "LRANGE l 0 0", "*1|$1|a|",
+                "LINDEX l 1",
+                "$1|b|", "HGET h f", "$1|1|", "HMGET h f", "*1|$1|1|", "HEXISTS h f", ":1|", "HLEN h", ":1|",
+                "HSTRLEN h f",
+                ":1|", "HKEYS h", "*1|$1|f|", "HVALS h", "*1|$1|1|", "HGETALL h", "*2|$1|f|$1|1|", "SISMEMBER s a",
+                ":1|",
+                "SMISMEMBER s a", "*1|:1|", "SCARD s", ":2|", "SMEMBERS s", "*2|$1|a|$1|b|", "SINTER s",
+                "*2|$1|a|$1|b|",
+                "SUNION s", "*2|$1|a|$1|b|", "SDIFF s", "*2|$1|a|$1|b|", "ZSCORE z a", "$1|1|", "ZCARD z", ":1|",
+                "ZRANK z a",
+                ":0|", "ZREVRANK z a", ":0|", "ZRANGE z 0 0", "*1|$1|a|", "ZREVRANGE z 0 0", "*1|$1|a|",
+                "ZRANGEBYSCORE z 1 1",
+                "*1|$1|a|", "ZREVRANGEBYSCORE z 1 1", "*1|$1|a|", "ZCOUNT z 1 1", ":1|", "PUBLISH c v", ":0|", "ECHO v",
+                "$1|v|", "TIME", "*2|$1|0|$1|0|", "WATCH k", "+OK|", "UNWATCH", "+OK|", "PING", "+PONG|");
         // Below it one command may go beyond by as much as it likes.
         Scene beyond = filled(sentence, 59999);
         beyond.answers("APPEND t " + "x".repeat(16383), ":16384|").keeps("SET t v", "-OOM|").answers("DEL big0", ":1|")
@@ -341,6 +358,50 @@ public final class SentencesOfTheLog {
         kept.holds("GET k", "$1|w|", "PTTL k", ":-1|");
     }
 
+    /** Whatever changed something: the log that tells it brings the same state back. */
+    private static void comesBack() {
+        String sentence = "and a log of all changes, synced ahead of each answer, from which the state comes back "
+                + "after a "
+                + "crash at any of its bytes";
+        String[] setup = {"SET t 5", "SET x v PX 700", "RPUSH l a b a", "HSET h f 1 g 2", "SADD s a b", "SADD s2 b c",
+            "ZADD z 1 a 2 b 3 c", "PEXPIRE z 900"};
+        String[] lines = {"SET t v", "SET t v NX", "SET t v EX 5", "SET x w KEEPTTL", "SET x w", "GETDEL t",
+            "GETSET x w", "SETNX n v",
+            "SETEX t 5 v", "PSETEX t 5 v", "MSET t 1 x 2 n 3", "MSETNX n 1 m 2", "APPEND t ''", "APPEND n ''",
+            "SETRANGE t 4 v",
+            "INCR t", "DECR t", "INCRBY t -7", "DECRBY t 9", "SETBIT t 20 1", "DEL t x none", "RENAME x t",
+            "RENAMENX x n",
+            "FLUSHALL", "EXPIRE t 5", "PEXPIRE t 5", "EXPIREAT t 5", "PEXPIREAT t 5", "EXPIRE x -5", "PERSIST x",
+            "LPUSH l c d",
+            "RPUSH n c d", "LPUSHX l c", "RPUSHX l c", "LPOP l", "LPOP l 2", "RPOP l", "RPOP l 9", "LSET l 1 v",
+            "LINSERT l AFTER b v", "LREM l -1 a", "LREM l 0 a", "LTRIM l 1 1", "LTRIM l 5 6", "LMOVE l n LEFT LEFT",
+            "LMOVE l l RIGHT LEFT", "RPOPLPUSH l n", "HSET h f 3 n 4", "HSETNX h n 4", "HDEL h f", "HDEL h f g",
+            "HINCRBY h f 9",
+            "SADD s d a", "SREM s a", "SREM s a b", "SMOVE s s2 a", "SMOVE s s2 b", "SINTERSTORE n s s2",
+            "SUNIONSTORE s s s2",
+            "SDIFFSTORE t s s2", "SINTERSTORE t none", "SPOP s", "ZADD z 5 a 6 d", "ZADD z NX 5 a 6 d",
+            "ZADD z GT INCR 5 a",
+            "ZREM z a", "ZREM z a b c", "ZINCRBY z 5 a", "ZREMRANGEBYRANK z 0 1", "ZREMRANGEBYSCORE z (1 3",
+            "ZPOPMIN z", "ZPOPMAX z 2"};
+        for (String line : lines) {
+            for (int way = 0; way < 2; way++) {
+                Scene scene = says(sentence, setup);
+                if (way == 1) {
+                    scene.ask(0, "MULTI");
+                }
+                scene.ask(0, line);
+                scene.ask(0, way == 1 ? "EXEC" : "PING");
+                String before = scene.state();
+                scene.steward.crash();
+                scene.due("restart", scene.steward.restart(), line.endsWith("v NX") ? 8 : 9);
+                for (int i = 0; i < 4; i++) {
+                    scene.steward.open(i);
+                }
+                scene.due("behind " + line, scene.state(), before);
+            }
+        }
+    }
+
     private static void restartWithoutRefusal() {
         String sentence = "nothing is logged or refused for room)";
         // The rewritten log tells the keys one by one, the last ones when the others take more than 60000 already.
@@ -455,6 +516,7 @@ public final class SentencesOfTheLog {
         stopped();
         restartReads();
         restartRuns();
+        comesBack();
         restartWithoutRefusal();
         rewriteOrder();
         rewriteTimes();
