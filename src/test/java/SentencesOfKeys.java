@@ -153,6 +153,10 @@ public final class SentencesOfKeys {
         fitsAll(plain, "[a\\-c]", "a - c", "b \\");
         fitsAll(plain, "[\\\\]", "\\", "a");
         fitsAll(plain, "[\\a-\\c]", "a b c", "d \\ -");
+        fitsAll(plain, "[\\a", "a", "\\ b");
+        fitsAll(plain, "[\\]", "]", "\\ a");
+        fitsAll(plain, "[a-\\c", "a b c", "\\ d -");
+        fitsAll(plain, "x\\*", "x*", "x xa x\\");
         fitsAll(plain, "[a-\\]]", "", "a ] \\");
         fitsAll(plain, "[A-\\]]", "A Z [ \\ ]", "^ @");
         String ends = "] ends it, the first one too, or the pattern's end";
