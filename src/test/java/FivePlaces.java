@@ -52,7 +52,10 @@ public final class FivePlaces {
         }
     }
 
-    /** NX and XX look at the member alone; GT and LT at the score that comes, which must be there for it. */
+    /**
+     * NX and XX look at the member alone. GT and LT look at the score that comes: scores are integers, and those are
+     * within 64 bits, so a sum beyond is no score that could be greater or lesser, whichever of the two is told.
+     */
     private static void zaddIncr() {
         String sentence = "INCR: the score grows by i: the score or NIL when it is not done (-ERR overflow)";
         Scene scene = says(sentence, "ZADD z " + MOST + " m " + LEAST + " l 5 a");
@@ -89,7 +92,7 @@ public final class FivePlaces {
                 bytes.substring(bytes.length() - 1), 0, "-ERR protocol: " + word + "|").isOpen(0, false);
     }
 
-    /** Whatever is wrong with a LINE: of * it is fault count, of $ fault length, when its CR LF or 16 bytes are there. */
+    /** Whatever is wrong with a LINE: of * it is fault count, of $ fault length, once its CR LF or 16 bytes are there. */
     private static void lines() {
         for (String bad : new String[] {"\r\n", "-\r\n", "x\r\n", "1x\r\n", " 1\r\n", "+1\r\n", "0000001\r\n",
             "-0000001\r\n", "999999\r\n", "1\r1\r\n", "123456789012\r\n", "1234567890123\r\n", "12345678901234\r",
