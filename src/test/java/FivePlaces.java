@@ -92,7 +92,7 @@ public final class FivePlaces {
                 bytes.substring(bytes.length() - 1), 0, "-ERR protocol: " + word + "|").isOpen(0, false);
     }
 
-    /** Whatever is wrong with a LINE: of * it is fault count, of $ fault length, once its CR LF or 16 bytes are there. */
+    /** Whatever is wrong with a LINE: of * it is fault count, of $ fault length, when its CR LF or 16 bytes came. */
     private static void lines() {
         for (String bad : new String[] {"\r\n", "-\r\n", "x\r\n", "1x\r\n", " 1\r\n", "+1\r\n", "0000001\r\n",
             "-0000001\r\n", "999999\r\n", "1\r1\r\n", "123456789012\r\n", "1234567890123\r\n", "12345678901234\r",
